@@ -15,6 +15,7 @@ final class BillTests {
         over();
         free();
         reveal();
+        revealOfWide();
         revealOfMany();
         peel();
         tear();
@@ -226,6 +227,15 @@ final class BillTests {
                 like.reveal(-1));
     }
 
+    private static void revealOfWide() {
+        BillWall wall = Due.walled("read 50;kind 0 16 2;kind 1 16 1;");
+        wall.paste(0, 0, 6);
+        wall.paste(1, 0, 6);
+        Due.due("half of it is enough", 0, wall.reveal(0));
+        wall.tear(15, 7);
+        Due.due("one CELL less is not", 2, wall.reveal(0));
+    }
+
     private static void revealOfMany() {
         BillWall wall = Due.walled("kind 0 2 1;");
         for (int i = 0; i < 14; i++) {
@@ -303,6 +313,15 @@ final class BillTests {
         }
         Due.due("DRAWS of 0 and 100", seed, two.seed(0));
         Due.row("TORN by rain", Due.of(4, 4), two.bill(0, 5), two.bill(1, 5));
+        BillWall whole = Due.walled("kind 0 16 8;");
+        whole.paste(0, 0, 0);
+        whole.paste(0, 0, 0);
+        Due.row("rain on all CELLS", Due.of(128, 128, 128), whole.rain(100), whole.bill(0, 4), whole.bill(1, 5));
+        seed = 0;
+        for (int i = 0; i < 128; i++) {
+            seed = (seed * 1103515245L + 12345L) % (1L << 31);
+        }
+        Due.due("DRAWS of all CELLS", seed, whole.seed(0));
     }
 
     private static void owner() {

@@ -9,6 +9,7 @@ final class PhotographTests {
         burn();
         orders();
         impossible();
+        tenInAHeap();
         firstOrder();
         surely();
         Due.end("PhotographTests");
@@ -109,6 +110,18 @@ final class PhotographTests {
         wall.look(2, 0, 0);
         gone(wall, "each over the other");
         Due.due("OUTSIDE even so", Due.OUTSIDE, wall.order(-1));
+    }
+
+    private static void tenInAHeap() {
+        BillWall wall = line();
+        for (int b = 0; b < 10; b++) {
+            wall.show(2, 0, 0);
+        }
+        wall.look(0, 0, 9);
+        Due.row("ten", Due.of(362880, 1, 0, 0, 0, 9), wall.orders(), wall.surely(9, 0), wall.surely(0, 9),
+                wall.surely(8, 0), wall.order(0), wall.order(9));
+        wall.look(1, 0, 0);
+        gone(wall, "two of ten are above all");
     }
 
     private static void gone(BillWall wall, String why) {
