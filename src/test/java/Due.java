@@ -4,6 +4,7 @@ final class Due {
 
     private static int asked = 0;
     private static int wrong = 0;
+    private static String under = "";
 
     private Due() {
     }
@@ -12,8 +13,17 @@ final class Due {
         asked++;
         if (got != want) {
             wrong++;
-            System.out.println(call + " answered " + got + ", due is " + want);
+            System.out.println(under + call + " answered " + got + ", due is " + want);
         }
+    }
+
+    /** What is asked from now on stands under this, which is told with each wrong answer. */
+    static void under(String heading) {
+        under = heading;
+    }
+
+    static int asked() {
+        return asked;
     }
 
     /** Answers of one call with several arguments, side by side. */
