@@ -38,8 +38,8 @@ final class WallEdges {
         Due.row("empty", Due.of(Due.NONE, Due.UNKNOWN, Due.UNKNOWN, Due.UNKNOWN, Due.UNKNOWN, Due.UNKNOWN,
                 Due.UNKNOWN, Due.UNKNOWN), wall.fault(), wall.kind(0, 0), wall.paste(0, 0, 0), wall.bill(0, 0),
                 wall.show(0, 0, 0), wall.best(0, 0), wall.two(0, 0, 0), wall.rivals(0, 0, 1, 0));
-        Due.row("no BILLS", Due.of(Due.UNKNOWN, Due.UNKNOWN, Due.UNKNOWN, Due.UNKNOWN, Due.UNKNOWN, Due.UNKNOWN, 0, 0, 0,
-                1), wall.over(0), wall.free(0), wall.reveal(0), wall.peel(0), wall.look(0, 0, 0), wall.surely(0, 1),
+        Due.row("no BILLS", Due.of(Due.UNKNOWN, Due.UNKNOWN, Due.UNKNOWN, Due.UNKNOWN, Due.UNKNOWN, Due.UNKNOWN, 0, 0,
+                0, 1), wall.over(0), wall.free(0), wall.reveal(0), wall.peel(0), wall.look(0, 0, 0), wall.surely(0, 1),
                 wall.owner(0, 0), wall.owner(0, 1), wall.owner(0, 2), wall.look(0, 0, Due.NONE));
         Due.row("the last CELL", Due.of(0, Due.NONE, Due.NONE, 1), wall.bare(15, 7), wall.above(15, 7),
                 wall.tear(15, 7), wall.passes(15));
