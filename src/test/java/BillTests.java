@@ -18,6 +18,7 @@ final class BillTests {
         revealOfWide();
         revealOfMany();
         peel();
+        lowAtTheLeft();
         tear();
         rain();
         owner();
@@ -268,6 +269,17 @@ final class BillTests {
         wall.tear(2, 0);
         Due.due("no CELL in common at which neither is TORN", 0, wall.peel(0));
         Due.row("peel UNKNOWN", Due.of(Due.UNKNOWN, Due.UNKNOWN), wall.peel(4), wall.peel(-1));
+    }
+
+    /** The row is greater than the column here: neither stands for the other. */
+    private static void lowAtTheLeft() {
+        BillWall wall = Due.walled("size 4 4;kind 0 2 1;kind 1 1 1;");
+        wall.paste(0, 0, 3);
+        wall.paste(1, 0, 3);
+        Due.row("at column 0, row 3", Due.of(2, 2, 2, 0, 1), wall.over(0), wall.free(0), wall.reveal(0),
+                wall.tear(1, 3), wall.bill(0, 5));
+        Due.row("taken off there", Due.of(1, 0, 0, Due.NONE, Due.NONE), wall.peel(1), wall.above(0, 3), wall.peel(0),
+                wall.above(0, 3), wall.above(1, 3));
     }
 
     private static void tear() {

@@ -12,6 +12,7 @@ final class PhotographTests {
         tenInAHeap();
         firstOrder();
         surely();
+        toldMoreThanOnce();
         Due.end("PhotographTests");
     }
 
@@ -155,5 +156,19 @@ final class PhotographTests {
                 wall.surely(2, 0), wall.surely(1, 0), wall.surely(3, 0), wall.surely(0, 3), wall.surely(2, 1));
         Due.row("surely UNKNOWN", Due.of(Due.UNKNOWN, Due.UNKNOWN, Due.UNKNOWN, Due.UNKNOWN, Due.UNKNOWN),
                 wall.surely(0, 0), wall.surely(0, 4), wall.surely(4, 0), wall.surely(-1, 0), wall.surely(0, -1));
+    }
+
+    private static void toldMoreThanOnce() {
+        BillWall wall = line();
+        wall.show(0, 0, 0);
+        wall.show(0, 1, 0);
+        wall.show(0, 2, 0);
+        wall.look(1, 0, 0);
+        wall.look(2, 0, 0);
+        Due.row("BILL 0 over 1 at two CELLS", Due.of(2, 1, 2, 0), wall.orders(), wall.order(0), wall.order(1),
+                wall.order(2));
+        wall.look(3, 0, 1);
+        Due.row("over BILL 2 at a CELL and by BILL 1", Due.of(1, 1, 0, 1), wall.orders(), wall.surely(0, 2),
+                wall.surely(2, 0), wall.surely(1, 2));
     }
 }

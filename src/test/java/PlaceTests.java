@@ -7,6 +7,7 @@ final class PlaceTests {
         best();
         bestWithFines();
         bestOverOwn();
+        bestOverUnlikeColumns();
         bestRefused();
         two();
         twoOverlap();
@@ -63,6 +64,16 @@ final class PlaceTests {
         BillWall lost = Due.walled("size 3 1;read 100;pass 0 9;kind 0 3 1;kind 0 1 1;");
         lost.paste(0, 0, 0);
         found(lost, 1, 0, 0, 9 - 11);
+    }
+
+    /** What passes the columns that it loses is taken from its WORTH, each of them once. */
+    private static void bestOverUnlikeColumns() {
+        BillWall wall = Due.walled("size 4 1;read 50;pass 0 5;pass 1 6;pass 2 7;pass 3 8;kind 0 4 1;kind 0 2 1;");
+        wall.paste(0, 0, 0);
+        found(wall, 1, 0, 0, 0);
+        found(wall, 0, 0, 0, 0);
+        wall.tear(1, 0);
+        found(wall, 1, 0, 0, 11 - 5);
     }
 
     private static void bestRefused() {

@@ -177,6 +177,10 @@ final class TextEdges {
         Due.faulty("bare 0 0 1 1;size 4 4;", 1, 13);
         Due.faulty("pass 0 1;size 4 4;", 1, 9);
         Due.faulty("kind 0 1 1;size 4 4;", 1, 11);
+        Due.faulty("bare 0 0 1 1;bare 1 0 1 1;size 4 4;", 1, 26);
+        Due.faulty("pass 0 1;pass 1 1;size 4 4;", 1, 18);
+        Due.faulty("kind 0 1 1;kind 0 1 1;size 4 4;", 1, 22);
+        Due.faulty("pass 0 1;guard 1;size 4 4;", 1, 17);
         Due.walled("kind 0 1 1;pass 0 1;bare 0 0 1 1;read 1;fine 1;guard 1;");
     }
 
